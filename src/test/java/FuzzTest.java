@@ -4,7 +4,7 @@ import java.util.Random;
 /** Runs of calls by chance (with seeds that are always the same), answered by the class and by the model. */
 public final class FuzzTest {
   private static final Check check = new Check("FuzzTest");
-  private static final int RUNS = Integer.getInteger("runs", 260);
+  private static final int RUNS = Integer.getInteger("runs", 500);
 
   private final Random random;
   private final FetchOrder x = new FetchOrder();
@@ -119,10 +119,10 @@ public final class FuzzTest {
     int to = random.nextInt(120) == 0 ? blocks : pick(Math.max(0, blocks - 1));
     int other = pick(Math.max(0, blocks - 1));
     if (kind == 0) {
-      return "ret" + number();
+      return (bare ? "ret" : " ret") + number();
     }
     if (kind < 3 || bare && kind < 4) {
-      return "go" + to + " " + number();
+      return (bare ? "go" : " go") + to + " " + number();
     }
     return blank() + "if " + to + " " + number() + " else " + other + " " + number();
   }
@@ -172,7 +172,9 @@ public final class FuzzTest {
   }
 
   private void go() {
-    load();
+    for (int i = 0; i < 5 && y.many(1) + 0 * x.many(1) == 0; i++) {
+      load();
+    }
     for (int i = 0; i < 110; i++) {
       if (random.nextInt(40) == 0) {
         load();
