@@ -131,6 +131,7 @@ public final class LookTest {
     check.due("a flow below 0 is no jump", x.cost(0, 0), 0);
     FetchOrder y = Check.of("fun a 1;block a 5 go 1 2;block a 5 if 0 3 else 1 4;");
     flowsAre(y, 0, 2, 2, 4);
+    check.due("a FLOW of 0 is not broken", y.many(7), 0);
     check.due("never one to itself", y.arc(3, 4), 0);
     check.due("heat counts it", y.block(1, 4), 6);
     FetchOrder z = Check.of("fun a 9;block a 5 go 1 1;block a 5 if 0 8 else 2 2;block a 5 ret 2;");

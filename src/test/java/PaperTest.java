@@ -7,12 +7,14 @@ public final class PaperTest {
   public static void main(String[] args) {
     moved();
     movedIsAsMove();
+    movedToTheEnds();
     best();
     bestOfSeveral();
     bestStepByStep();
     enough();
     enoughGoesByColdChains();
     enoughIsTheLeast();
+    enoughUpToTheLast();
     enoughChangesNothing();
     check.finish();
   }
@@ -43,6 +45,13 @@ public final class PaperTest {
         }
       }
     }
+  }
+
+  private static void movedToTheEnds() {
+    FetchOrder x = Check.of("fun a 1;block a 5 if 1 20 else 2 1;block a 5 go 0 20;block a 5 ret 1;");
+    check.due("FLOW back to 0", x.arc(3, 3), 20);
+    check.answered(x, "1 to the last place", x.moved(1, 2), 40);
+    check.answered(x, "1 to the first place", x.moved(1, 0), 20);
   }
 
   private static void bestIs(FetchOrder x, int block, int place, int jumps) {
@@ -133,6 +142,14 @@ public final class PaperTest {
         x.undo();
       }
     }
+  }
+
+  private static void enoughUpToTheLast() {
+    String text = "fun a 9999;block a 5 if 2 0 else 1 9990;block a 5 ret 98xx;block a 5 ret 9999;";
+    FetchOrder x = Check.of(text.replace("98xx", "9899"));
+    check.answered(x, "9,900 is more than 9,899", x.enough(1), 9900);
+    FetchOrder y = Check.of(text.replace("98xx", "9900"));
+    check.refused(y, "9,900 is not more than 9,900", y.enough(1), 3);
   }
 
   private static void enoughChangesNothing() {

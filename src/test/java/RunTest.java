@@ -115,6 +115,9 @@ public final class RunTest {
     runIs(y, with(0, 0, 3, 0), 3, 21, 3, 7);
     y.set(2, 7);
     runIs(y, with(0, 0, 3, 0), 3, 7, 3, 7);
+    // Three BLOCKS of 96 bytes are 18 pages, of which 16 are kept: in a ring each is missed each time.
+    FetchOrder z = Check.of("fun a 1;page 16;kept 16;block a 96 go 1 1;block a 96 go 2 1;block a 94 go 0 1;");
+    runIs(z, with(0, 0, 6, 0), 6, 36, 2, 18);
   }
 
   private static void latestUsed() {

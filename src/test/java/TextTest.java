@@ -6,6 +6,7 @@ public final class TextTest {
   public static void main(String[] args) {
     tape();
     loadTakesFirstBytes();
+    eachTextByItself();
     loadWithNumberThatCantBe();
     faultTells();
     faultyLoadChangesNothingElse();
@@ -48,6 +49,17 @@ public final class TextTest {
     check.answered(x, "load(0)", x.load(0), 0);
     check.due("many(0)", x.many(0), 0);
     check.due("many(10)", x.many(10), 2);
+  }
+
+  private static void eachTextByItself() {
+    FetchOrder x = new FetchOrder();
+    for (int i = 0; i < 3; i++) {
+      check.answered(x, "again", Check.load(x, "fun a 1;block a 5 ret 1;cold 1;page 20;kept 2;trace a;"), 1);
+    }
+    check.answered(x, "without", Check.load(x, "fun b 1;block b 5 ret 1;"), 1);
+    check.due("no trace", x.many(6), 0);
+    check.due("no cold", x.many(3), 0);
+    check.due("page", x.many(4), 64);
   }
 
   private static void loadWithNumberThatCantBe() {
@@ -108,6 +120,7 @@ public final class TextTest {
     fits("fun a 9999;block a 99 ret 9999;block a 1 if 0 1 else 2 1;block a 1 go 1 1;", 3);
     fits("fun abcdef 1;fun calls 2;fun f 3;block calls 1 ret 1;block f 1 ret 1;block abcdef 1 ret 1;", 3);
     fits("fun a 1;fun b 1;block b 5 ret 1;trace b a;block a 5 go 0 1;", 2);
+    fits("fun az 1;fun za 9;fun z 9;block z 9 ret 9;block za 9 ret 9;block az 9 ret 0;", 3);
     fits(functions(8) + blocks(8), 8);
     fits("fun a 1;" + "block a1ret1;".repeat(40), 40);
     FetchOrder x = Check.of("fun a 7;fun b 8;block b 5 ret 2;block a 6 go 1 3;block a 7 call b call a ret 4;");
