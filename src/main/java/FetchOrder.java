@@ -795,7 +795,6 @@ public final class FetchOrder {
     void read(int n) {
       draft.clear();
       kind = 0;
-      place = n;
       linesBegan = false;
       for (int what = 0; what < 3; what++) {
         told[what] = false;

@@ -32,6 +32,25 @@ final class Check {
     due(call + ": status()", x.status(), 0);
   }
 
+  /** A text that is a PROGRAM of so many BLOCKS. */
+  FetchOrder fits(String text, int blocks) {
+    FetchOrder x = new FetchOrder();
+    answered(x, text, load(x, text), blocks);
+    due(text + ": fault(0)", x.fault(0), 0);
+    due(text + ": fault(1)", x.fault(1), FetchOrder.NONE);
+    return x;
+  }
+
+  /** A text with a FAULT of a kind at a place. */
+  void faulty(String text, int kind, int place) {
+    FetchOrder x = new FetchOrder();
+    refused(x, text, load(x, text), 9);
+    due(text + ": fault(0)", x.fault(0), kind);
+    due(text + ": fault(1)", x.fault(1), place);
+    due(text + ": no FUNCTIONS", x.many(0), 0);
+    due(text + ": nothing to undo", x.many(10), 0);
+  }
+
   void finish() {
     System.out.println(name + ": " + asked + " answers, " + wrong + " wrong");
     if (wrong != 0) {

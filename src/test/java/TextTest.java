@@ -104,8 +104,7 @@ public final class TextTest {
   }
 
   private static void fits(String text, int blocks) {
-    FetchOrder x = new FetchOrder();
-    check.answered(x, text, Check.load(x, text), blocks);
+    check.fits(text, blocks);
   }
 
   private static void textsThatFit() {
@@ -147,10 +146,7 @@ public final class TextTest {
   }
 
   private static void faulty(String text, int kind, int place) {
-    FetchOrder x = new FetchOrder();
-    check.refused(x, text, Check.load(x, text), 9);
-    check.due(text + ": fault(0)", x.fault(0), kind);
-    check.due(text + ": fault(1)", x.fault(1), place);
+    check.faulty(text, kind, place);
   }
 
   private static void noToken() {
