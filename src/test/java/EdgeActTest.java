@@ -18,6 +18,7 @@ public final class EdgeActTest {
     eachLoadByItself();
     countsOfEveryArc();
     countChangesOneFunction();
+    countIsAsIfTold();
     setOfEach();
     takeOfEach();
     takeIsThatAlready();
@@ -233,6 +234,36 @@ public final class EdgeActTest {
       check.answered(x, "arc(" + a + ",3)", x.arc(a, 3), flows[a]);
     }
     check.answered(x, "mending", x.many(8), 96 + 96);
+  }
+
+  /** With another COUNT all is as if the text had told it so. */
+  private static void countIsAsIfTold() {
+    String text = "fun a #;fun b #;block a 5 if 1 # else 3 #;block a 5 call b if 2 # else 4 #;block b 9 call a ret #;"
+        + "block a 5 if 4 # else 5 #;block a 5 ret #;block a 5 ret #;block a 5 go 0 #;cold 3;page 40;trace b;";
+    int[] counts = {100, 30, 71, 29, 56, 15, 30, 15, 41, 29, 30, 41};
+    FetchOrder x = Check.of(told(text, counts));
+    check.due("status()", x.status(), 0);
+    int[] others = {0, 9999, 29, 57, 3};
+    for (int a = 0; a < counts.length; a++) {
+      for (int other : others) {
+        if (other != counts[a]) {
+          check.answered(x, "count(" + a + "," + other + ")", x.count(a, other), counts[a]);
+          counts[a] = other;
+          same("as told", Picture.of(x), Picture.of(Check.of(told(text, counts))));
+        }
+      }
+      int last = a % 2 == 0 ? 44 : 7;
+      x.count(a, last);
+      counts[a] = last;
+    }
+  }
+
+  private static String told(String text, int[] counts) {
+    String all = text;
+    for (int count : counts) {
+      all = all.replaceFirst("#", Integer.toString(count));
+    }
+    return all;
   }
 
   private static void setOfEach() {

@@ -28,6 +28,7 @@ public final class EdgeCallTest {
     countNumbers();
     setNumbers();
     takeNumbers();
+    takeOfForty();
     movePlaces();
     firstThatHolds();
     leastUpToSeven();
@@ -243,6 +244,18 @@ public final class EdgeCallTest {
         check.answered(x, "OWN is ORDER " + how, x.order(4, i), lines[how][i]);
       }
     }
+  }
+
+  private static void takeOfForty() {
+    FetchOrder x = Check.of(FULL);
+    for (int how = 0; how < 4; how++) {
+      check.refused(x, "all are alike", x.take(how), 4);
+    }
+    check.answered(x, "move(38,39)", x.move(38, 39), 48);
+    check.answered(x, "but for the last two", x.take(3), 48);
+    check.refused(x, "it is that", x.take(0), 4);
+    check.answered(x, "move(1,0)", x.move(1, 0), 47);
+    check.answered(x, "but for the first two", x.take(2), 48);
   }
 
   private static void movePlaces() {

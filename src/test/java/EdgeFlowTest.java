@@ -525,6 +525,13 @@ public final class EdgeFlowTest {
     check.answered(z, "20 and 10 of 29", z.many(9), 2);
     z.set(1, 30);
     check.answered(z, "20 and 10 of 30", z.many(9), 1);
+    // Here c is behind b already when b comes to a.
+    FetchOrder w = Check.of("fun a 6;fun b 8;fun c 9;block a 10 call b ret 6;block b 10 call c ret 8;block c 10 ret 9;page 29;");
+    check.answered(w, "10 and 20 of 29", w.many(9), 2);
+    places(w, 2, 0, 1);
+    w.set(1, 30);
+    check.answered(w, "10 and 20 of 30", w.many(9), 1);
+    places(w, 0, 1, 2);
   }
 
   private static void clusterBehindCluster() {
@@ -551,6 +558,9 @@ public final class EdgeFlowTest {
     places(like, 0, 1);
     FetchOrder cut = Check.of(text.replace("#", "5"));
     places(cut, 1, 0);
+    // 97 by 98 is 989.8, 98 by 99 is 989.9: cut they are alike.
+    FetchOrder near = Check.of("fun a 97;fun b 98;block a 98 ret 97;block b 99 ret 98;");
+    places(near, 0, 1);
     // The least SIZES there are: 1 by 1 is 1,000, 1 by 2 is 500.
     FetchOrder one = Check.of("fun a 1;fun b 1;block a 2 ret 1;block b 1 ret 1;");
     places(one, 1, 0);

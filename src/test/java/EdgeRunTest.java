@@ -201,6 +201,14 @@ public final class EdgeRunTest {
     FetchOrder y = Check.of("fun a 1;fun b 1;fun c 1;page 16;kept 2;block a 14 call c call c go 0 1;block b 16 ret 1;"
         + "block c 16 ret 1;");
     run(y, 0, 0, 6, 0, 6, 2, 2, 2);
+    // Of two CALLS the first comes first: b RETURNS, c jumps on the spot.
+    String calls = "fun a 1;fun b 1;fun c 1;block a 5 call # call @ ret 1;block b 5 ret 1;block c 5 go 0 1;";
+    FetchOrder z = Check.of(calls.replace('#', 'b').replace('@', 'c'));
+    run(z, 0, 0, 2, 0, 2, 1, 0, 1);
+    run(z, 0, 0, 5, 0, 5, 1, 3, 1);
+    FetchOrder w = Check.of(calls.replace('#', 'c').replace('@', 'b'));
+    run(w, 0, 0, 2, 0, 2, 1, 1, 1);
+    run(w, 0, 0, 5, 0, 5, 1, 4, 1);
   }
 
   private static void goThatFallsIsNoJump() {
@@ -295,9 +303,14 @@ public final class EdgeRunTest {
 
   private static void seedsAtTheEnds() {
     // Seed 0 draws 74, seed 9,999 draws 29,092: of 100 that is 74 and 92.
-    FetchOrder x = Check.of("fun a 100;block a 5 if 1 80 else 2 20;block a 5 ret 80;block a 5 ret 20;");
+    FetchOrder x = Check.of("fun a 100;block a 5 if 1 90 else 2 10;block a 5 ret 90;block a 5 ret 10;");
     run(x, 0, 0, 9, 0, 2, 1, 0, 1);
     run(x, 0, 0, 9, 9999, 2, 1, 1, 1);
+    // Seed 873 is the first of which more than 65,537 comes: 12 is left of 65,549; of 13 it is not below 12.
+    FetchOrder y = Check.of("fun a 13;block a 5 if 1 12 else 2 1;block a 5 ret 12;block a 5 ret 1;");
+    run(y, 0, 0, 9, 873, 2, 1, 1, 1);
+    // Seed 872 draws 65,474, of which by 13 6 is left.
+    run(y, 0, 0, 9, 872, 2, 1, 0, 1);
   }
 
   private static void keptAtTheEnds() {

@@ -25,6 +25,7 @@ public final class EdgeTextTest {
     linesComeBehindFunctions();
     wayIsZeroToThirtyNine();
     wayMayBeToldBehind();
+    tokensThatCantStandThere();
     eachFaultAtItsFirstPlace();
     twoFaultsOfOneKind();
     twoFaultsOfUnlikeKinds();
@@ -338,6 +339,34 @@ public final class EdgeTextTest {
     check.fits("fun a 1;block a 1 go 0 1;", 1);
     check.faulty("fun a 1;block a 1 if 1 1 else 0 1;", 8, 34);
     check.faulty("fun a 1;block a 1 if 0 1 else 1 1;", 8, 34);
+  }
+
+  /** Each TOKEN of a text in turn is left out, or has another kind of TOKEN in its place. */
+  private static void tokensThatCantStandThere() {
+    String[] tokens = "fun a 1 ; block a 1 call a if 0 1 else 0 1 ; block a 1 go 0 1 ; block a 1 ret 1 ; cold 1 ; trace a ;"
+        .split(" ");
+    for (int i = 0; i < tokens.length; i++) {
+      boolean number = Character.isDigit(tokens[i].charAt(0));
+      StringBuilder head = new StringBuilder();
+      for (int j = 0; j < i; j++) {
+        head.append(tokens[j]).append(' ');
+      }
+      StringBuilder tail = new StringBuilder();
+      for (int j = i + 1; j < tokens.length; j++) {
+        tail.append(' ').append(tokens[j]);
+      }
+      int at = head.length();
+      check.faulty(head + "else" + (tokens[i].equals("else") ? " else" : "") + tail, 2, at + (tokens[i].equals("else") ? 5 : 0));
+      check.faulty(head + (number ? "a" : "1") + tail, 2, at);
+      check.faulty(head + (tokens[i].equals(";") ? "fun" : ";") + tail, 2, at);
+      check.faulty(head + "?" + tail, 1, at);
+      check.faulty(head + "aaaaaaa" + tail, 2, at);
+      check.faulty(head + "11111" + tail, 1, at);
+      boolean lineEnds = i == 0 || tokens[i - 1].equals(";");
+      if (!lineEnds) {
+        check.faulty(head.toString(), 2, at);
+      }
+    }
   }
 
   // ---- FAULTS
