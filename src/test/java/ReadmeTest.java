@@ -17,7 +17,7 @@ public final class ReadmeTest {
     String page = Files.readString(Path.of("README.md"));
     example(page);
     text(page);
-    faultEmptiesTheTape();
+    faultEmptiesTheTape(page);
     namesEveryCall(page);
     namesEveryTest(page);
     check.finish();
@@ -72,7 +72,9 @@ public final class ReadmeTest {
     check.answered(x, "trace", x.function(0, 7), 0);
   }
 
-  private static void faultEmptiesTheTape() {
+  private static void faultEmptiesTheTape(String page) {
+    holds("the page tells what a load with status 9 changes",
+        page.replaceAll("\\s+", " ").contains("but for a `load` with status 9: the tape is empty then"));
     FetchOrder x = new FetchOrder();
     check.refused(x, "load of a fault", Check.load(x, "fun a 1;"), 9);
     check.due("fault(0)", x.fault(0), 7);
